@@ -12,6 +12,7 @@ public final class AddressGrammar {
     private static final int MAX_TEXT = 60;
     private static final int MAX_DIGITS = 3;
     private static final int MAX_LINES = 6, MAX_PLACES = 5, MAX_ALTERNATIVES = 4;
+    private static final int MAX_WORDS = MAX_LINES * MAX_PLACES * MAX_ALTERNATIVES;
     private static final int MAX_COST = 1000;
     private static final int MAX_PAIRS = 60;
     private static final int VALUES = 1000;
@@ -34,7 +35,6 @@ public final class AddressGrammar {
     private final Lines lines = new Lines();
     private final Pairs pairs = new Pairs();
     private final Search search = new Search(form, lines, pairs);
-    private boolean searched = false;
     private final char[] printed = new char[MAX_PRINTED];
     private int printedLength = 0;
 
@@ -58,7 +58,7 @@ public final class AddressGrammar {
             throw new IllegalStateException("the text is not a form");
         }
         form.become(draft);
-        searched = false;
+        search.forget();
         return form.rows;
     }
 
@@ -77,18 +77,14 @@ public final class AddressGrammar {
         if (lines.isBehindNext(line, place)) {
             return STATE;
         }
-        if (lines.alternativesAt(line, place) >= MAX_ALTERNATIVES) {
-            return ROOM;
-        }
-        searched = false;
-        lines.open(line, place);
+        search.forget();
         return lines.add(line, place, kind, value % VALUES, (int) cost);
     }
 
     public int clear() {
         int gone = lines.count;
-        lines.count = 0;
-        searched = false;
+        lines.removeAll();
+        search.forget();
         return gone;
     }
 
@@ -102,7 +98,7 @@ public final class AddressGrammar {
         if (!pairs.add(kind, value, other)) {
             return false;
         }
-        searched = false;
+        search.forget();
         return true;
     }
 
@@ -131,7 +127,7 @@ public final class AddressGrammar {
         if (form.size == 0) {
             return NONE;
         }
-        searchIfChanged();
+        search.find();
         return search.linesReached;
     }
 
@@ -160,15 +156,8 @@ public final class AddressGrammar {
     }
 
     private Reading readingOf(int rank) {
-        searchIfChanged();
+        search.find();
         return rank == 0 ? search.first : search.second;
-    }
-
-    private void searchIfChanged() {
-        if (!searched) {
-            search.find();
-            searched = true;
-        }
     }
 
     private void putPart(int kind, int value) {
@@ -319,81 +308,88 @@ public final class AddressGrammar {
     /** The lines with their places and alternatives. */
     private static final class Lines {
         int count = 0;
+        // These two are 0 where there is no line or no place yet.
         private final int[] places = new int[MAX_LINES];
         private final int[] alternatives = new int[MAX_LINES * MAX_PLACES];
-        private final int[] kinds = new int[MAX_LINES * MAX_PLACES * MAX_ALTERNATIVES];
-        private final int[] values = new int[MAX_LINES * MAX_PLACES * MAX_ALTERNATIVES];
-        private final int[] costs = new int[MAX_LINES * MAX_PLACES * MAX_ALTERNATIVES];
+        private final int[] kinds = new int[MAX_WORDS];
+        private final int[] values = new int[MAX_WORDS];
+        private final int[] costs = new int[MAX_WORDS];
+
+        void removeAll() {
+            count = 0;
+            for (int line = 0; line < places.length; line++) {
+                places[line] = 0;
+            }
+            for (int i = 0; i < alternatives.length; i++) {
+                alternatives[i] = 0;
+            }
+        }
 
         int placesIn(int line) {
-            return line >= 0 && line < count && line < MAX_LINES ? places[line] : 0;
+            return line >= 0 && line < MAX_LINES ? places[line] : 0;
         }
 
         int alternativesAt(int line, int place) {
-            boolean isThere = place >= 0 && place < placesIn(line) && place < MAX_PLACES;
-            return isThere ? alternatives[line * MAX_PLACES + place] : 0;
+            boolean canBe = line >= 0 && line < MAX_LINES && place >= 0 && place < MAX_PLACES;
+            return canBe ? alternatives[line * MAX_PLACES + place] : 0;
         }
 
         boolean isBehindNext(int line, int place) {
             return line > count || place > placesIn(line);
         }
 
-        /** Makes the line or the place, if it is the next one. */
-        void open(int line, int place) {
-            if (line < 0 || line >= MAX_LINES || place < 0 || place >= MAX_PLACES) {
-                return;
-            }
-            if (line == count) {
-                places[line] = 0;
-                count++;
-            }
-            if (place == places[line]) {
-                alternatives[line * MAX_PLACES + place] = 0;
-                places[line]++;
-            }
-        }
-
-        /** The number of the new alternative; NONE, if the place is not open or full. */
+        /** The number of the new alternative, or ROOM; the line and the place are made with it. */
         int add(int line, int place, int kind, int value, int cost) {
             int number = alternativesAt(line, place);
-            if (place < 0 || place >= placesIn(line) || number >= MAX_ALTERNATIVES) {
-                return NONE;
-            }
             int slot = slotOf(line, place, number);
+            if (slot == NONE) {
+                return ROOM;
+            }
             kinds[slot] = kind;
             values[slot] = value;
             costs[slot] = cost;
+            count = Math.max(count, line + 1);
+            places[line] = Math.max(places[line], place + 1);
             alternatives[line * MAX_PLACES + place] = number + 1;
             return number;
         }
 
         int kindOf(int line, int place, int number) {
-            return isThere(line, place, number) ? kinds[slotOf(line, place, number)] : NONE;
+            int slot = slotOf(line, place, number);
+            return slot == NONE ? NONE : kinds[slot];
         }
 
         int valueOf(int line, int place, int number) {
-            return isThere(line, place, number) ? values[slotOf(line, place, number)] : NONE;
+            int slot = slotOf(line, place, number);
+            return slot == NONE ? NONE : values[slot];
         }
 
         int costOf(int line, int place, int number) {
-            return isThere(line, place, number) ? costs[slotOf(line, place, number)] : NONE;
+            int slot = slotOf(line, place, number);
+            return slot == NONE ? NONE : costs[slot];
         }
 
         boolean hasKind(int line, int place, int kind) {
+            int start = slotOf(line, place, 0);
+            if (start == NONE) {
+                return false;
+            }
             int many = alternativesAt(line, place);
-            for (int number = 0; number < many; number++) {
-                if (kindOf(line, place, number) == kind) {
+            for (int number = 0; number < many && number < MAX_ALTERNATIVES; number++) {
+                if (kinds[start + number] == kind) {
                     return true;
                 }
             }
             return false;
         }
 
-        private boolean isThere(int line, int place, int number) {
-            return number >= 0 && number < alternativesAt(line, place);
-        }
-
         private static int slotOf(int line, int place, int number) {
+            if (line < 0 || line >= MAX_LINES || place < 0 || place >= MAX_PLACES) {
+                return NONE;
+            }
+            if (number < 0 || number >= MAX_ALTERNATIVES) {
+                return NONE;
+            }
             return (line * MAX_PLACES + place) * MAX_ALTERNATIVES + number;
         }
     }
@@ -505,6 +501,7 @@ public final class AddressGrammar {
         Reading second = new Reading();
         int linesReached = 0;
         private Reading candidate = new Reading();
+        private boolean found = false;
 
         private final Form form;
         private final Lines lines;
@@ -515,7 +512,7 @@ public final class AddressGrammar {
         private final int[] sums = new int[STATES * RANKS];
         private final int[] choices = new int[STATES * RANKS];
         private final int[] ranksBehind = new int[STATES * RANKS];
-        private final int[] placeValues = new int[MAX_LINES * MAX_PLACES * MAX_ALTERNATIVES];
+        private final int[] placeValues = new int[MAX_WORDS];
         private int placeValueCount = 0;
         // NONE: the place is missing, or the form has none.
         private int assumedPlace = NONE;
@@ -526,7 +523,16 @@ public final class AddressGrammar {
             this.pairs = pairs;
         }
 
+        /** To be called when the form, the lines or the pairs have changed. */
+        void forget() {
+            found = false;
+        }
+
         void find() {
+            if (found) {
+                return;
+            }
+            found = true;
             first.drop();
             second.drop();
             if (form.size == 0) {

@@ -41,6 +41,8 @@ public final class PlainTest {
             List<String> rows = readForm();
             for (int k = 0; k < 3; k++) {
                 writeLines(rows, way == 1 ? 3 : 1000);
+                // Asked before and behind, so that no answer of before may stay.
+                askAll();
                 tellFits(way == 1 ? 3 : 1000);
                 askAll();
                 Due.is(name("clear"), x.clear(), y.clear());
