@@ -2,15 +2,32 @@
 final class Due {
     private static int wrong = 0;
     private static int asked = 0;
+    private static String sentence = "";
+    private static int askedBefore = 0;
 
     private Due() {
+    }
+
+    /** The document's words that the next answers are due by; each must be asked for. */
+    static void says(String words) {
+        if (!sentence.isEmpty() && asked == askedBefore) {
+            wrong++;
+            System.out.println("nothing was asked for \"" + sentence + "\"");
+        }
+        sentence = words;
+        askedBefore = asked;
+    }
+
+    private static void tell(String call, String got, String want) {
+        wrong++;
+        String by = sentence.isEmpty() ? "" : " by \"" + sentence + "\"";
+        System.out.println(call + " answered " + got + ", due is " + want + by);
     }
 
     static void is(String call, long got, long want) {
         asked++;
         if (got != want) {
-            wrong++;
-            System.out.println(call + " answered " + got + ", due is " + want);
+            tell(call, "" + got, "" + want);
         }
     }
 
@@ -21,8 +38,7 @@ final class Due {
     static void is(String call, String got, String want) {
         asked++;
         if (!got.equals(want)) {
-            wrong++;
-            System.out.println(call + " answered \"" + got + "\", due is \"" + want + "\"");
+            tell(call, "\"" + got + "\"", "\"" + want + "\"");
         }
     }
 
@@ -32,28 +48,25 @@ final class Due {
         }
     }
 
+    /** What read answers, THROWS if it throws what the document says. */
+    static int read(AddressGrammar x) {
+        try {
+            return x.read();
+        } catch (IllegalStateException e) {
+            return Plain.THROWS;
+        }
+    }
+
     /** Writes and reads a form that has so many rows. */
     static void form(AddressGrammar x, String text, int rows) {
         write(x, text);
-        int got = -99;
-        try {
-            got = x.read();
-        } catch (IllegalStateException e) {
-            System.out.println("read of " + text + " throws");
-        }
-        is("read of " + text, got, rows);
+        is("read of " + text, read(x), rows);
     }
 
     /** Writes and reads a text that has its fault at a place. */
     static void fault(AddressGrammar x, String text, int place) {
         write(x, text);
-        boolean threw = false;
-        try {
-            x.read();
-        } catch (IllegalStateException e) {
-            threw = true;
-        }
-        is("read of \"" + text + "\" throws", threw, true);
+        is("read of \"" + text + "\"", read(x), Plain.THROWS);
         is("wrong() behind \"" + text + "\"", x.wrong(), place);
     }
 
@@ -81,6 +94,7 @@ final class Due {
     }
 
     static void end(String test) {
+        says("");
         System.out.println(test + ": " + asked + " answers, " + wrong + " not as due");
         if (wrong != 0 || asked == 0) {
             System.exit(1);

@@ -65,13 +65,7 @@ public final class PlainTest {
     }
 
     private void read() {
-        int got;
-        try {
-            got = x.read();
-        } catch (IllegalStateException e) {
-            got = Plain.THROWS;
-        }
-        Due.is(name("read"), got, y.read());
+        Due.is(name("read"), Due.read(x), y.read());
         Due.is(name("wrong"), x.wrong(), y.wrong());
     }
 
