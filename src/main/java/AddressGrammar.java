@@ -240,10 +240,11 @@ public final class AddressGrammar {
         }
 
         private boolean takeRowEnd() {
-            if (partsInRow == 0 || digits == 0 || size <= 0) {
+            int latest = size - 1;
+            if (partsInRow == 0 || digits == 0 || latest < 0 || latest >= KINDS) {
                 return false;
             }
-            rowEnds[size - 1] = true;
+            rowEnds[latest] = true;
             rows++;
             partsInRow = 0;
             digits = NO_MARK;
@@ -251,25 +252,30 @@ public final class AddressGrammar {
         }
 
         private boolean takeMark() {
-            if (partsInRow == 0 || digits != NO_MARK || size <= 0) {
+            int latest = size - 1;
+            if (partsInRow == 0 || digits != NO_MARK || latest < 0 || latest >= KINDS) {
                 return false;
             }
-            missingCosts[size - 1] = 0;
+            missingCosts[latest] = 0;
             digits = 0;
             return true;
         }
 
         private boolean takeDigit(int digit) {
-            if (digits == NO_MARK || digits >= MAX_DIGITS || size <= 0) {
+            int latest = size - 1;
+            if (digits == NO_MARK || digits >= MAX_DIGITS || latest < 0 || latest >= KINDS) {
                 return false;
             }
-            missingCosts[size - 1] = missingCosts[size - 1] * 10 + digit;
+            missingCosts[latest] = missingCosts[latest] * 10 + digit;
             digits++;
             return true;
         }
 
         private boolean takePart(int kind) {
-            if (kind < 0 || kind >= KINDS || used[kind] || digits == 0 || size >= KINDS) {
+            if (kind < 0 || kind >= KINDS || size < 0 || size >= KINDS) {
+                return false;
+            }
+            if (used[kind] || digits == 0) {
                 return false;
             }
             used[kind] = true;
@@ -283,20 +289,20 @@ public final class AddressGrammar {
         }
 
         int kindOf(int part) {
-            return part >= 0 && part < size ? kinds[part] : NONE;
+            return part >= 0 && part < size && part < KINDS ? kinds[part] : NONE;
         }
 
         /** What it costs that a part is missing, NONE if it may not be. */
         int missingCost(int part) {
-            return part >= 0 && part < size ? missingCosts[part] : NONE;
+            return part >= 0 && part < size && part < KINDS ? missingCosts[part] : NONE;
         }
 
         boolean endsRow(int part) {
-            return part >= 0 && part < size && rowEnds[part];
+            return part >= 0 && part < size && part < KINDS && rowEnds[part];
         }
 
         int partOfKind(int kind) {
-            for (int part = 0; part < size; part++) {
+            for (int part = 0; part < size && part < KINDS; part++) {
                 if (kinds[part] == kind) {
                     return part;
                 }

@@ -179,6 +179,10 @@ final class Plain {
         return i >= 0 && i < printed.length() ? printed.charAt(i) : -1;
     }
 
+    int printedLength() {
+        return printed.length();
+    }
+
     private void makeWays() {
         if (ways != null) {
             return;

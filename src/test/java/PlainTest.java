@@ -5,6 +5,15 @@ import java.util.Random;
 
 /** All promises: runs of many calls, each answered by the class and by Plain. */
 public final class PlainTest {
+    // Behind these the document leaves an object's answers free.
+    private static final int MAX_CALLS = 512;
+    // A form with read and wrong, words, what fits, and clear.
+    private static final int MAX_TOLD = 54 + 2 + 9 * 4 + 5 + 1;
+    // Furthest, and of two ranks derive, sum and print.
+    private static final int MAX_BRIEF = 1 + 2 * 3;
+    // Of two ranks the facts of ten parts and 43 characters.
+    private static final int MAX_ASKED = MAX_BRIEF + 2 * (10 * 5 + 43);
+    private static final int MAX_ROUND = MAX_TOLD + MAX_BRIEF + MAX_ASKED;
     private static final int[] EDGES = {Integer.MIN_VALUE, -1000, -1, 0, 1, 5, 6, 9, 60, 999, 1000, 4999, 5000,
         Integer.MAX_VALUE};
 
@@ -13,17 +22,22 @@ public final class PlainTest {
     private AddressGrammar x;
     private Plain y;
     private int run;
+    private int calls;
+    private int most;
     private int second;
     private int misfitting;
 
     public static void main(String[] args) {
         PlainTest test = new PlainTest();
-        for (int i = 0; i < 6000; i++) {
+        for (int i = 0; i < 15000; i++) {
             test.run = i;
+            test.calls = 0;
             test.x = new AddressGrammar();
             test.y = new Plain();
             test.run(i % 3);
+            test.most = Math.max(test.most, test.calls);
         }
+        Due.is("all within the calls of an object", test.most <= MAX_CALLS, true);
         // A test of readings that finds none would tell nothing.
         Due.is("many second readings", test.second > 4000, true);
         Due.is("many dear readings", test.misfitting > 1000, true);
@@ -37,21 +51,30 @@ public final class PlainTest {
             }
             return;
         }
-        for (int i = 0; i < 3; i++) {
-            List<String> rows = readForm();
-            for (int k = 0; k < 3; k++) {
-                writeLines(rows, way == 1 ? 3 : 1000);
-                // Asked before and behind, so that no answer of before may stay.
-                askAll();
-                tellFits(way == 1 ? 3 : 1000);
-                askAll();
-                Due.is(name("clear"), x.clear(), y.clear());
+        int values = way == 1 ? 3 : 1000;
+        List<String> rows = List.of();
+        for (int i = 0; calls + MAX_ROUND <= MAX_CALLS; i++) {
+            if (i % 2 == 0) {
+                rows = readForm();
             }
+            writeLines(rows, values);
+            // Asked before and behind, so that no answer of before may stay.
+            ask(false);
+            tellFits(values);
+            ask(below(3) == 0);
+            same("clear", x.clear(), y.clear());
         }
     }
 
-    private String name(String call) {
-        return "run " + run + ": " + call;
+    /** Every call of the object is asked for here, so that calls can be counted. */
+    private void same(String call, long got, long want) {
+        calls++;
+        Due.is("run " + run + ": " + call, got, want);
+    }
+
+    private void same(String call, boolean got, boolean want) {
+        calls++;
+        Due.is("run " + run + ": " + call, got, want);
     }
 
     private int below(int bound) {
@@ -60,13 +83,13 @@ public final class PlainTest {
 
     private void signAll(String text) {
         for (char c : text.toCharArray()) {
-            Due.is(name("sign"), x.sign(c), y.sign(c));
+            same("sign", x.sign(c), y.sign(c));
         }
     }
 
     private void read() {
-        Due.is(name("read"), Due.read(x), y.read());
-        Due.is(name("wrong"), x.wrong(), y.wrong());
+        same("read", Due.read(x), y.read());
+        same("wrong", x.wrong(), y.wrong());
     }
 
     private List<String> readForm() {
@@ -121,7 +144,7 @@ public final class PlainTest {
     }
 
     private void word(int line, int kind, int value, long cost) {
-        Due.is(name("word"), x.word(line, kind, value, cost), y.word(line, kind, value, cost));
+        same("word", x.word(line, kind, value, cost), y.word(line, kind, value, cost));
     }
 
     private void tellFits(int values) {
@@ -130,27 +153,39 @@ public final class PlainTest {
             int kind = below(2) == 0 ? 2 : 6;
             int value = below(values);
             int other = below(values);
-            Due.is(name("fits"), x.fits(kind, value, other), y.fits(kind, value, other));
+            same("fits", x.fits(kind, value, other), y.fits(kind, value, other));
         }
     }
 
-    private void askAll() {
-        Due.is(name("furthest"), x.furthest(), y.furthest());
+    private void ask(boolean all) {
+        same("furthest", x.furthest(), y.furthest());
         for (int rank = 0; rank < 2; rank++) {
-            Due.is(name("derive"), x.derive(rank), y.derive(rank));
-            Due.is(name("sum"), x.sum(rank), y.sum(rank));
-            for (int i = 0; i < 10; i++) {
-                for (int what = 0; what < 5; what++) {
-                    Due.is(name("part"), x.part(rank, i, what), y.part(rank, i, what));
-                }
-            }
-            Due.is(name("print"), x.print(rank), y.print(rank));
-            for (int i = 0; i < 44; i++) {
-                Due.is(name("at"), x.at(i), y.at(i));
+            same("derive", x.derive(rank), y.derive(rank));
+            same("sum", x.sum(rank), y.sum(rank));
+            same("print", x.print(rank), y.print(rank));
+            if (all) {
+                askParts(rank);
+                askPrinted();
             }
         }
         second += y.derive(1) >= 0 ? 1 : 0;
         misfitting += y.sum(0) >= 100 ? 1 : 0;
+    }
+
+    /** The parts that are there, and one behind them. */
+    private void askParts(int rank) {
+        for (int i = 0; i <= Math.max(0, y.derive(rank)); i++) {
+            for (int what = 0; what < 5; what++) {
+                same("part", x.part(rank, i, what), y.part(rank, i, what));
+            }
+        }
+    }
+
+    private void askPrinted() {
+        int length = y.printedLength();
+        for (int i = 0; i <= length; i++) {
+            same("at", x.at(i), y.at(i));
+        }
     }
 
     private int any(int bound) {
@@ -172,23 +207,23 @@ public final class PlainTest {
             }
             case 5 -> {
                 if (below(3) == 0) {
-                    Due.is(name("clear"), x.clear(), y.clear());
+                    same("clear", x.clear(), y.clear());
                 }
             }
             case 6, 7 -> word(any(3), any(9), any(2) * (below(2) == 0 ? 1000 : 1), any(4));
             case 8 -> {
                 int kind = below(2) == 0 ? 2 : any(9);
-                Due.is(name("fits"), x.fits(kind, a, b), y.fits(kind, a, b));
+                same("fits", x.fits(kind, a, b), y.fits(kind, a, b));
             }
-            case 9 -> Due.is(name("derive"), x.derive(a), y.derive(a));
-            case 10 -> Due.is(name("part"), x.part(a, b, c), y.part(a, b, c));
-            case 11 -> Due.is(name("sum"), x.sum(a), y.sum(a));
-            case 12 -> Due.is(name("print"), x.print(a), y.print(a));
+            case 9 -> same("derive", x.derive(a), y.derive(a));
+            case 10 -> same("part", x.part(a, b, c), y.part(a, b, c));
+            case 11 -> same("sum", x.sum(a), y.sum(a));
+            case 12 -> same("print", x.print(a), y.print(a));
             default -> {
-                Due.is(name("at"), x.at(b), y.at(b));
-                Due.is(name("furthest"), x.furthest(), y.furthest());
+                same("at", x.at(b), y.at(b));
+                same("furthest", x.furthest(), y.furthest());
                 int sign = any(130);
-                Due.is(name("sign"), x.sign(sign), y.sign(sign));
+                same("sign", x.sign(sign), y.sign(sign));
             }
         }
     }

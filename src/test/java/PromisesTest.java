@@ -775,7 +775,8 @@ public final class PromisesTest {
             Due.is("sign", x.sign(c), y.sign(c));
         }
         Due.is("read", Due.read(x), y.read());
-        for (int call = text.length() + 1; call < 512; call++) {
+        // The signs and the read are made, and the last call stands behind the loop.
+        for (int call = text.length() + 1; call < 511; call++) {
             int number = call * 7 % 60;
             int turn = call % 8;
             if (turn == 0) {
